@@ -1,0 +1,344 @@
+import java.util.List;
+import java.util.Random;
+
+/** All promises: runs of calls, drawn from fixed seeds, answered by the class and by the Model alike. */
+public final class ModelTest {
+    private static final int RUNS = 240;
+    private static final int CALLS = 512;
+    private static final List<String> KINDS = List.of("sign", "sound", "word", "name", "tongue");
+
+    private final int run;
+    private final Random random;
+    private final UnreadScript script = new UnreadScript();
+    private final Model model = new Model();
+    private final StringBuilder told = new StringBuilder();
+    private int calls;
+    private boolean wrong;
+
+    private ModelTest(int run) {
+        this.run = run;
+        random = new Random(run);
+    }
+
+    public static void main(String[] args) {
+        long calls = 0;
+        int wrong = 0;
+        for (int run = 0; run < RUNS; run++) {
+            ModelTest test = new ModelTest(run);
+            test.go();
+            calls += test.calls;
+            if (test.wrong) wrong++;
+        }
+        System.out.println(calls + " calls in " + RUNS + " runs, " + wrong + " runs wrong");
+        if (wrong != 0 || calls < 10000) System.exit(1);
+    }
+
+    private void go() {
+        int theme = run % 6;
+        while (calls < CALLS && !wrong) {
+            switch (theme) {
+                case 0: anything(); break;
+                case 1: scripts(1, 3); break;
+                case 2: scripts(0, 6); break;
+                case 3: numbers(); break;
+                case 4: claims(); break;
+                default: scripts(2, 12); break;
+            }
+        }
+        if (wrong) System.out.println("run " + run + told);
+    }
+
+    private void anything() {
+        switch (random.nextInt(4)) {
+            case 0: numbers(); break;
+            case 1: claims(); break;
+            default: scripts(1, 5); break;
+        }
+    }
+
+    // A number from lo to hi, now and then one beside them.
+    private int pick(int lo, int hi) {
+        int drawn = random.nextInt(60);
+        if (drawn == 0) return lo - 1;
+        if (drawn == 1) return hi + 1;
+        if (drawn == 2) return random.nextBoolean() ? Integer.MIN_VALUE : Integer.MAX_VALUE;
+        return lo + random.nextInt(Math.max(1, hi - lo + 1));
+    }
+
+    private int formOrSign() {
+        return pick(0, model.count(0) - 1);
+    }
+
+    private int anyText() {
+        return pick(0, model.count(1) - 1);
+    }
+
+    private int someTexts() {
+        return pick(0, (1 << model.count(1)) - 1);
+    }
+
+    private void scripts(int likeness, int forms) {
+        if (calls == 0) {
+            call("likeness", likeness);
+            for (int f = 0; f < forms; f++) call("form", random.nextInt(4) == 0 ? pick(0, 4095) : random.nextInt(64));
+        }
+        switch (random.nextInt(14)) {
+            case 0: call("likeness", random.nextInt(3) == 0 ? pick(0, 12) : likeness); break;
+            case 1: if (random.nextInt(4) == 0) call("form", pick(0, 4095)); break;
+            case 2: case 3: case 4: layText(); break;
+            case 5: call("sign", formOrSign()); call("signs", pick(0, 3)); break;
+            case 6: if (random.nextInt(3) == 0) call("drop"); else call("count", pick(0, 10)); break;
+            case 7: askTexts(); break;
+            case 8: askGrids(); break;
+            case 9: call("name", pick(1, 4), random.nextInt(3) == 0 ? pick(0, 255) : pick(0, 15)); break;
+            case 10: askNames(); break;
+            case 11: call("word", pick(1, 3), random.nextInt(8) == 0 ? pick(0, 63) : pick(0, 15)); break;
+            case 12: askTables(); break;
+            default: sheets(); break;
+        }
+    }
+
+    private void layText() {
+        int k = random.nextInt(4);
+        int lane = random.nextInt(3);
+        int n = 4 + random.nextInt(24);
+        call("sheet", k, lane, n);
+        int few = random.nextInt(3) == 0 ? 2 : 24;
+        for (int i = 0; i < n; i++) {
+            int form = random.nextInt(Math.max(1, Math.min(few, model.count(0))));
+            int drawn = random.nextInt(100);
+            call("lay", k, i, drawn < 25 ? -2 : drawn < 31 ? -1 : drawn < 32 ? pick(-2, 24) : form);
+        }
+        call("text", k, lane, random.nextInt(20) == 0 ? pick(0, n) : 0, Math.min(24, n));
+    }
+
+    private void askTexts() {
+        int t = anyText();
+        for (int what = 0; what < 6; what++) call("textOf", t, what);
+        call("textOf", t, pick(0, 35));
+        call("counted", formOrSign());
+        int a = formOrSign();
+        int b = random.nextInt(4) == 0 ? a : formOrSign();
+        call("beside", a, b);
+        call("chance", a, b, 0);
+        call("chance", a, b, 1);
+        call("chance", a, b, pick(0, 1));
+        call("runs", random.nextInt(3));
+        call("runs", pick(0, 2));
+    }
+
+    private void askGrids() {
+        for (int n = 0; n < 4; n++) call("akin", formOrSign(), formOrSign());
+        for (int n = 0; n < 2; n++) call("apart", formOrSign(), formOrSign(), pick(0, 9));
+        int rows = pick(1, 3);
+        call("grid", rows, 0);
+        call("grid", rows, 1);
+        for (int n = 0; n < 3; n++) call("grid", rows, pick(10, 18));
+        for (int n = 0; n < 5; n++) call("grid", rows, pick(30, 38));
+        call("grid", rows, pick(0, 40));
+    }
+
+    private void askNames() {
+        int name = pick(0, model.count(4) - 1);
+        int other = pick(0, model.count(4) - 1);
+        int t = anyText();
+        for (int what = 0; what < 3; what++) call("dragged", name, t, what);
+        call("dragged", name, t, pick(0, 2));
+        call("together", name, t, other, anyText());
+        call("together", other, t, name, t);
+    }
+
+    private void askTables() {
+        call("tabled", pick(0, 5));
+        call("tabled", random.nextInt(6));
+        call("read", someTexts(), pick(0, 4095));
+        call("read", someTexts(), random.nextInt(64));
+        if (random.nextInt(4) != 0) return;
+        int texts = someTexts();
+        int others = (1 << model.count(1)) - 1 & ~texts;
+        call("best", texts, random.nextInt(3));
+        call("best", someTexts(), pick(0, 2));
+        call("judge", texts, others, random.nextInt(3));
+        call("judge", texts, random.nextInt(4) == 0 ? someTexts() : others, 1);
+    }
+
+    private void sheets() {
+        call("sheet", pick(0, 3), pick(0, 2), pick(-1, 60));
+        int k = pick(0, 3);
+        for (int n = 0; n < 3; n++) call("lay", k, pick(0, 59), random.nextInt());
+        call("text", k, pick(0, 2), pick(0, 59), pick(1, 24));
+        call("count", 10);
+    }
+
+    private void numbers() {
+        call("account", marks(), marks());
+        for (int n = 0; n < 3; n++) call("values", pick(0, 4));
+        for (int n = 0; n < 2; n++) call("sure", pick(0, 3));
+        call("count", 3);
+        if (random.nextInt(6) == 0) call("account", pick(0, 1 << 20), random.nextInt());
+    }
+
+    private int marks() {
+        int packed = 0;
+        for (int m = 0; m < 4; m++) {
+            if (random.nextInt(3) == 0) packed |= random.nextInt(random.nextInt(10) == 0 ? 25 : 7) << 5 * m;
+        }
+        return packed;
+    }
+
+    private void claims() {
+        if (random.nextInt(3) == 0) call("day", random.nextInt(5) == 0 ? pick(0, 99) : model.count(8) + random.nextInt(3));
+        StringBuilder text = new StringBuilder();
+        int many = random.nextInt(5) == 0 ? 6 : random.nextInt(3);
+        for (int n = 0; n < many; n++) writeClaim(text, n);
+        if (random.nextInt(3) == 0 && text.length() > 0) spoil(text);
+        feed(text.toString());
+        call("count", 9);
+        call("claims");
+        call("fault");
+        call("count", 6);
+        for (int n = 0; n < 8; n++) call("claim", pick(0, model.count(6) - 1), pick(0, 6));
+        if (random.nextInt(3) == 0) call("withdraw", pick(0, model.count(6) - 1));
+        for (int n = 0; n < 3; n++) call("known", random.nextInt(3) == 0 ? pick(0, 99) : model.count(8), pick(0, 2));
+        call("count", 7);
+        call("count", 8);
+    }
+
+    private void writeClaim(StringBuilder text, int n) {
+        text.append(KINDS.get(random.nextInt(5))).append(random.nextBoolean() ? " " : "").append(random.nextInt(100));
+        int there = model.count(6) + n;
+        String link = random.nextBoolean() ? " on " : "on";
+        while (there > 0 && random.nextInt(3) != 0) {
+            text.append(link).append(random.nextInt(random.nextInt(9) == 0 ? there + 1 : there));
+            link = random.nextBoolean() ? "," : " , ";
+        }
+        text.append(random.nextBoolean() ? ";" : " ; ");
+    }
+
+    private void spoil(StringBuilder text) {
+        String signs = " ;,0123456789abcosigntwr{A\u00ff\u0000";
+        int at = random.nextInt(text.length());
+        char sign = signs.charAt(random.nextInt(signs.length()));
+        switch (random.nextInt(4)) {
+            case 0: text.setCharAt(at, sign); break;
+            case 1: text.insert(at, sign); break;
+            case 2: text.deleteCharAt(at); break;
+            default: text.setLength(at); break;
+        }
+    }
+
+    private void feed(String text) {
+        int had = model.count(9);
+        for (int from = 0; from < text.length(); from += 8) {
+            long v = 0;
+            for (int i = from; i < from + 8; i++) v = v << 8 | (i < text.length() ? text.charAt(i) : ' ');
+            call("feed", v);
+        }
+        call("end", random.nextInt(12) == 0 ? pick(0, 160) : had + text.length());
+    }
+
+    private void call(String name, long... with) {
+        if (wrong || calls >= CALLS) return;
+        calls++;
+        long got = answer(name, with);
+        long want = answerDue(name, with);
+        told.append("\n  ").append(name).append(java.util.Arrays.toString(with)).append(" ").append(got);
+        if (got == want) return;
+        wrong = true;
+        told.append(", due is ").append(want);
+    }
+
+    private long answer(String name, long... w) {
+        int[] a = ints(w);
+        UnreadScript x = script;
+        switch (name) {
+            case "form": return x.form(a[0]);
+            case "likeness": return x.likeness(a[0]);
+            case "sign": return x.sign(a[0]);
+            case "signs": return x.signs(a[0]);
+            case "text": return x.text(a[0], a[1], a[2], a[3]);
+            case "drop": return x.drop();
+            case "textOf": return x.textOf(a[0], a[1]);
+            case "counted": return x.counted(a[0]);
+            case "beside": return x.beside(a[0], a[1]);
+            case "chance": return x.chance(a[0], a[1], a[2]);
+            case "runs": return x.runs(a[0]);
+            case "akin": return x.akin(a[0], a[1]);
+            case "apart": return x.apart(a[0], a[1], a[2]);
+            case "grid": return x.grid(a[0], a[1]);
+            case "account": return x.account(a[0], a[1]);
+            case "values": return x.values(a[0]);
+            case "sure": return x.sure(a[0]);
+            case "name": return x.name(a[0], a[1]);
+            case "dragged": return x.dragged(a[0], a[1], a[2]);
+            case "together": return x.together(a[0], a[1], a[2], a[3]);
+            case "word": return x.word(a[0], a[1]);
+            case "tabled": return x.tabled(a[0]);
+            case "read": return x.read(a[0], a[1]);
+            case "best": return x.best(a[0], a[1]);
+            case "judge": return x.judge(a[0], a[1], a[2]);
+            case "feed": return x.feed(w[0]);
+            case "end": return x.end(a[0]);
+            case "claims": return x.claims();
+            case "fault": return x.fault();
+            case "claim": return x.claim(a[0], a[1]);
+            case "withdraw": return x.withdraw(a[0]);
+            case "day": return x.day(a[0]);
+            case "known": return x.known(a[0], a[1]);
+            case "sheet": return x.sheet(a[0], a[1], a[2]);
+            case "lay": return x.lay(a[0], a[1], a[2]);
+            case "count": return x.count(a[0]);
+            default: throw new IllegalArgumentException(name);
+        }
+    }
+
+    private long answerDue(String name, long... w) {
+        int[] a = ints(w);
+        Model x = model;
+        switch (name) {
+            case "form": return x.form(a[0]);
+            case "likeness": return x.likeness(a[0]);
+            case "sign": return x.sign(a[0]);
+            case "signs": return x.signs(a[0]);
+            case "text": return x.text(a[0], a[1], a[2], a[3]);
+            case "drop": return x.drop();
+            case "textOf": return x.textOf(a[0], a[1]);
+            case "counted": return x.counted(a[0]);
+            case "beside": return x.beside(a[0], a[1]);
+            case "chance": return x.chance(a[0], a[1], a[2]);
+            case "runs": return x.runs(a[0]);
+            case "akin": return x.akin(a[0], a[1]);
+            case "apart": return x.apart(a[0], a[1], a[2]);
+            case "grid": return x.grid(a[0], a[1]);
+            case "account": return x.account(a[0], a[1]);
+            case "values": return x.values(a[0]);
+            case "sure": return x.sure(a[0]);
+            case "name": return x.name(a[0], a[1]);
+            case "dragged": return x.dragged(a[0], a[1], a[2]);
+            case "together": return x.together(a[0], a[1], a[2], a[3]);
+            case "word": return x.word(a[0], a[1]);
+            case "tabled": return x.tabled(a[0]);
+            case "read": return x.read(a[0], a[1]);
+            case "best": return x.best(a[0], a[1]);
+            case "judge": return x.judge(a[0], a[1], a[2]);
+            case "feed": return x.feed(w[0]);
+            case "end": return x.end(a[0]);
+            case "claims": return x.claims();
+            case "fault": return x.fault();
+            case "claim": return x.claim(a[0], a[1]);
+            case "withdraw": return x.withdraw(a[0]);
+            case "day": return x.day(a[0]);
+            case "known": return x.known(a[0], a[1]);
+            case "sheet": return x.sheet(a[0], a[1], a[2]);
+            case "lay": return x.lay(a[0], a[1], a[2]);
+            case "count": return x.count(a[0]);
+            default: throw new IllegalArgumentException(name);
+        }
+    }
+
+    private static int[] ints(long[] with) {
+        int[] a = new int[with.length];
+        for (int i = 0; i < a.length; i++) a[i] = (int) with[i];
+        return a;
+    }
+}
