@@ -17,14 +17,17 @@ public final class UnreadScript {
     private final Sheets sheetRows;
 
     public UnreadScript() {
-        formRows = new Forms();
-        textRows = new Texts(formRows);
-        kinship = new Kinship(formRows, textRows);
+        Forms forms = new Forms();
+        Texts texts = new Texts(forms);
+        Tape bytes = new Tape();
+        formRows = forms;
+        textRows = texts;
+        kinship = new Kinship(forms, texts);
         accountRows = new Accounts();
-        nameRows = new Names(textRows);
-        tongue = new Tongue(textRows);
-        tape = new Tape();
-        claimRows = new Claims(tape);
+        nameRows = new Names(texts);
+        tongue = new Tongue(texts);
+        tape = bytes;
+        claimRows = new Claims(bytes);
         sheetRows = new Sheets();
     }
 
@@ -878,9 +881,11 @@ public final class UnreadScript {
     private static final class Tongue {
         private static final int MOST = 12, MOST_SOUNDS = 6, MOST_TABLED = 6;
         private static final int MOST_SHUFFLES = 720;
+        private static final int KEYS = 2 << 2 * MOST_SOUNDS;
 
         private final Texts texts;
-        private final int[] words = new int[MOST];
+        // A bit for each row of SOUNDS that may be a WORD, by its key.
+        private final long[] words = new long[KEYS / 64];
         private int size;
         private final int[] tabled = new int[MOST_TABLED];
         private int tabledSize;
@@ -908,7 +913,8 @@ public final class UnreadScript {
         int add(int n, int packed) {
             if (!Names.areSounds(n, MOST_SOUNDS, packed) || isWord(keyOf(n, packed))) return BAD;
             if (size >= MOST) return FULL;
-            words[size] = keyOf(n, packed);
+            int key = keyOf(n, packed);
+            words[key >> 6] |= 1L << (key & 63);
             size++;
             return size - 1;
         }
@@ -919,10 +925,7 @@ public final class UnreadScript {
         }
 
         private boolean isWord(int key) {
-            for (int w = 0; w < size; w++) {
-                if (words[w] == key) return true;
-            }
-            return false;
+            return key >= 0 && key < KEYS && (words[key >> 6] >> (key & 63) & 1) == 1;
         }
 
         int signAt(int i) {
