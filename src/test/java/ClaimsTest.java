@@ -97,6 +97,11 @@ public final class ClaimsTest {
         told(new UnreadScript(), "  sign  5  ;  ", 1, 0);
         told(new UnreadScript(), "sign 00;", 1, 0);
         refused("signs 5;", 0, 1);
+        refused("signz 5;", 0, 1);
+        refused("signa 5;", 0, 1);
+        refused("xign 5;", 0, 1);
+        refused("sigh 5;", 0, 1);
+        refused("sign 5 in 0;", 7, 1);
         refused("sig 5;", 0, 1);
         refused("sign 5 o 0;", 7, 1);
         refused("sign 5 onn 0;", 7, 1);
@@ -158,6 +163,7 @@ public final class ClaimsTest {
         refused("sign 5; word 1 on 1;", 18, 3);
         refused("sign 5; word 1 on 0, 0;", 21, 3);
         refused("sign 5; word 1 on 0, 00;", 21, 3);
+        refused("sign 5; sign 6; word 1 on 1,0,1;", 30, 3);
         UnreadScript x = new UnreadScript();
         told(x, "sign 5; word 1;", 2, 0);
         told(x, "name 1 on 2;", -20, 3);
@@ -216,6 +222,7 @@ public final class ClaimsTest {
         for (int k = 0; k < 7; k++) {
             for (int what = 0; what < 7; what++) check.due("claim(" + k + ", " + what + ")", x.claim(k, what), want[k][what]);
         }
+        told(x, "name 98 on 6; name 99 on 7", -10 - 26, 2);
         check.due("claim(7, 0)", x.claim(7, 0), BAD);
         check.due("claim(-1, 0)", x.claim(-1, 0), BAD);
         check.due("claim(0, 7)", x.claim(0, 7), BAD);
@@ -228,6 +235,12 @@ public final class ClaimsTest {
         check.due("claim(5, 4) stays", x.claim(5, 4), 3);
         check.due("claim(6, 6) stays", x.claim(6, 6), 4);
         check.due("claim(4, 5)", x.claim(4, 5), 0);
+        told(x, "name 97; name 98;", 2, 0);
+        for (int k = 7; k < 9; k++) {
+            check.due("nothing of the refused text", x.claim(k, 4), 0);
+            check.due("nothing of the refused text", x.claim(k, 6), 0);
+            check.due("the day", x.claim(k, 2), 8);
+        }
     }
 
     private static void withdraw() {

@@ -7,6 +7,7 @@ public final class GridsTest {
         akin();
         apart();
         grid();
+        gridAgain();
         gridOfMany();
         check.finish();
     }
@@ -30,6 +31,8 @@ public final class GridsTest {
         Scripts.text(x, "abcd abce abb");
         check.due("of other lengths", x.akin(1, 2), 2);
         check.due("abcd, abce", x.akin(3, 4), 2);
+        Scripts.text(x, "da db");
+        check.due("a as last sign", x.akin(0, 1), 1);
         check.due("one and the same", x.akin(2, 2), BAD);
         check.due("a 5", x.akin(5, 2), BAD);
         check.due("b -1", x.akin(2, -1), BAD);
@@ -41,6 +44,9 @@ public final class GridsTest {
         x.likeness(0);
         check.due("f alone", x.akin(2, 5), 1);
         check.due("d, f", x.akin(5, 3), 1);
+        for (int n = 0; n < 7; n++) x.drop();
+        check.due("no words any longer", x.count(1), 0);
+        check.due("c, d", x.akin(2, 3), 0);
     }
 
     private static void apart() {
@@ -105,6 +111,32 @@ public final class GridsTest {
         check.due("told of forms of two signs", x.grid(1, 0), 9 + 4 + 3 + 9);
         x.apart(7, 3, 0);
         check.due("taken back", x.grid(1, 0), 2 + 4 + 3 + 9);
+    }
+
+    private static void gridAgain() {
+        UnreadScript x = Scripts.withForms(9);
+        x.apart(0, 1, 5);
+        check.due("two", x.grid(1, 1), 2);
+        check.due("quarrel", x.grid(1, 0), 5);
+        x.apart(1, 0, 0);
+        check.due("none any longer", x.grid(1, 1), 0);
+        Scripts.text(x, "ca cb");
+        check.due("akin by one", x.grid(3, 1), 2);
+        check.due("quarrel", x.grid(3, 0), 0);
+        check.due("sign a", x.grid(3, 10), 0);
+        check.due("one row", x.grid(3, 31), 0);
+        x.apart(0, 1, 2);
+        check.due("quarrel", x.grid(3, 0), 1);
+        check.due("two rows", x.grid(3, 31), 1);
+        x.drop();
+        for (int f = 1; f < 8; f++) x.apart(0, f, 9);
+        check.due("a from all others", x.grid(1, 0), 63);
+        check.due("a from all others", x.grid(2, 0), 0);
+        check.due("the eighth", x.grid(2, 37), 1);
+        for (int f = 2; f < 8; f++) x.apart(0, f, 0);
+        check.due("two left", x.grid(1, 1), 2);
+        check.due("two left", x.grid(1, 0), 9);
+        check.due("two left", x.grid(2, 31), 1);
     }
 
     private static void gridOfMany() {

@@ -34,7 +34,8 @@ public final class ModelTest {
     }
 
     private void go() {
-        int theme = run % 6;
+        int theme = run % 7;
+        if (theme == 6) fill();
         while (calls < CALLS && !wrong) {
             switch (theme) {
                 case 0: anything(); break;
@@ -75,6 +76,18 @@ public final class ModelTest {
 
     private int someTexts() {
         return pick(0, (1 << model.count(1)) - 1);
+    }
+
+    // As much of FORMS and TEXTS as there can be, with as many WORDS or as many SIGNS as there can be.
+    private void fill() {
+        call("likeness", random.nextInt(3));
+        for (int f = 0; f < 24; f++) call("form", random.nextInt(4096));
+        for (int t = 0; t < 8; t++) {
+            call("sheet", 0, 2, 24);
+            boolean parted = random.nextBoolean();
+            for (int i = 0; i < 24; i++) call("lay", 0, i, parted && i % 2 == 1 ? -2 : random.nextInt(24));
+            call("text", 0, 2, 0, 24);
+        }
     }
 
     private void scripts(int likeness, int forms) {

@@ -31,6 +31,8 @@ public final class SheetsTest {
         x.form(0);
         x.form(1);
         x.lay(0, 5, 1);
+        x.lay(0, 0, 1);
+        x.lay(0, 59, 1);
         check.due("cells as told", x.text(0, 0, 5, 1), 0);
         check.due("text", x.textOf(0, 10), 0);
         x.likeness(0);
@@ -39,6 +41,11 @@ public final class SheetsTest {
         check.due("the old lane", x.text(0, 0, 5, 1), -13);
         check.due("a new row of 0", x.text(0, 2, 5, 1), 1);
         check.due("cell 0", x.textOf(1, 10), 0);
+        check.due("cell 0 too", x.text(0, 2, 0, 1), 2);
+        check.due("cell 0 too", x.textOf(2, 10), 0);
+        x.sheet(0, 2, 60);
+        check.due("cell 59 too", x.text(0, 2, 59, 1), 3);
+        check.due("cell 59 too", x.textOf(3, 10), 0);
         check.due("n 0", x.sheet(0, 1, 0), 1);
         check.due("count(10)", x.count(10), 0);
         check.due("another sheet", x.sheet(3, 1, 9), 1);

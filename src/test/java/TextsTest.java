@@ -13,6 +13,7 @@ public final class TextsTest {
         beside();
         chance();
         runs();
+        mostWords();
         check.finish();
     }
 
@@ -127,6 +128,11 @@ public final class TextsTest {
         check.due("twelve words", x.textOf(2, 4), 12);
         Scripts.text(x, "  ");
         check.due("no words", x.textOf(3, 3), 0);
+        Scripts.text(x, "abca bc .");
+        check.due("the longest is the first", x.textOf(4, 5), 4);
+        UnreadScript y = Scripts.withForms(3);
+        Scripts.text(y, "abca bc");
+        check.due("the longest is the first of all", y.textOf(0, 5), 4);
         x.likeness(12);
         check.due("all forms one sign", x.textOf(0, 13), 0);
         check.due("gap as it is", x.textOf(0, 14), -1);
@@ -196,12 +202,46 @@ public final class TextsTest {
         check.due("what -1", x.chance(0, 1, -1), BAD);
         check.due("a 3", x.chance(3, 1, 0), BAD);
         check.due("b -1", x.chance(0, -1, 1), BAD);
+        UnreadScript y = Scripts.withForms(2);
+        Scripts.text(y, "ab");
+        check.due("above, two signs", y.chance(0, 1, 0), 1);
+        check.due("below, two signs", y.chance(0, 1, 1), 2);
+        check.due("above, two signs alike", y.chance(0, 0, 0), 0);
+        check.due("below, two signs alike", y.chance(0, 0, 1), 1);
         Scripts.text(x, "abababababababababababab");
         for (int n = 0; n < 4; n++) Scripts.text(x, "aaaaaaaaaaaaaaaaaaaaaaaa");
         // 125 SIGNS, 117 places, a 111 times, b 14 times.
         check.due("above many", x.chance(0, 1, 0), 117L * 111 * 14 / 2);
         check.due("below many", x.chance(0, 1, 1), 125L * 124 / 2);
         check.due("above above 1", x.chance(0, 0, 0), 117L * 111 * 110 / 10);
+    }
+
+    private static void mostWords() {
+        check.promise("promises 6 to 12, all full");
+        UnreadScript x = Scripts.withForms(24);
+        for (int t = 0; t < 8; t++) {
+            check.due("text", Scripts.text(x, "a b a b a b a b a b a " + (t == 7 ? "xv" : "x ")), t);
+            check.due("words", x.textOf(t, 4), 12);
+        }
+        check.due("runs(1)", x.runs(1), 48 * 48 + 40 * 40 + 8 * 8);
+        check.due("runs(2)", x.runs(2), 48 * 48 + 40 * 40 + 7 * 7 + 1);
+        check.due("runs(0)", x.runs(0), -1);
+        check.due("counted(23)", x.counted(23), 8);
+        check.due("beside(23, 21)", x.beside(23, 21), 1);
+        check.due("count(2)", x.count(2), 97);
+        check.due("chance(23, 21, 0)", x.chance(23, 21, 0), 1);
+        check.due("chance(23, 21, 1)", x.chance(23, 21, 1), 97 * 96 / 8);
+        check.due("signs(0)", x.signs(0), 24);
+        check.due("akin(21, 23)", x.akin(21, 23), 0);
+        x.word(1, 1);
+        check.due("tabled(2)", x.tabled(2), 23);
+        check.due("read", x.read(255, 1), 48);
+        check.due("read", x.read(255, 1 + 4 + 16), 95);
+        check.due("best", x.best(255, 1), 95);
+        check.due("best tables", x.best(255, 2), 4);
+        check.due("judge", x.judge(127, 128, 0), 11);
+        // Of the four SIGNS a and b must have a 1, of which there are three.
+        check.due("judge", x.judge(127, 128, 1), 12);
     }
 
     private static void runs() {
