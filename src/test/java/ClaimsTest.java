@@ -8,6 +8,7 @@ public final class ClaimsTest {
         end();
         claims();
         tokens();
+        tapeCut();
         faults();
         faultsOfHanging();
         faultsOfClaimed();
@@ -120,6 +121,29 @@ public final class ClaimsTest {
         refused("sign 4294967297;", 5, 1);
     }
 
+    private static void tapeCut() {
+        check.promise("promises 28, 29");
+        // What stood behind the end of THE TAPE is no more of a TOKEN.
+        for (String text : new String[] {"sign 555;", "sign 5;;;", "sign 5 on"}) {
+            UnreadScript x = new UnreadScript();
+            Scripts.feed(x, text);
+            x.end(6);
+            check.due("'" + text + "' cut to 6", x.claims(), -16);
+            check.due("fault", x.fault(), 2);
+        }
+        UnreadScript x = new UnreadScript();
+        Scripts.feed(x, "signs");
+        x.end(4);
+        check.due("'signs' cut to 4", x.claims(), -14);
+        check.due("fault", x.fault(), 2);
+        String blanks = " ".repeat(154);
+        told(new UnreadScript(), blanks + "sign 5", -170, 2);
+        told(new UnreadScript(), blanks + "  sign", -170, 2);
+        told(new UnreadScript(), blanks + "sign5;", 1, 0);
+        told(new UnreadScript(), blanks + "sign5 ", -170, 2);
+        told(new UnreadScript(), blanks + "     {", -169, 1);
+    }
+
     private static void faults() {
         check.promise("promise 30");
         check.due("fault() of a new object", new UnreadScript().fault(), 0);
@@ -206,6 +230,10 @@ public final class ClaimsTest {
         check.due("withdraw(19)", x.withdraw(19), 1);
         check.due("claim(19, 3)", x.claim(19, 3), 0);
         check.due("claim(20, 0)", x.claim(20, 0), BAD);
+        check.due("known(0, 0)", x.known(0, 0), 18);
+        check.due("known(0, 2)", x.known(0, 2), 18);
+        check.due("withdraw(18)", x.withdraw(18), 1);
+        check.due("count(7)", x.count(7), 3);
     }
 
     private static void claim() {

@@ -65,6 +65,15 @@ public final class GridsTest {
         x.likeness(12);
         check.due("told of forms, though of one sign", x.apart(1, 2, 4), 0);
         check.due("one sign is not apart", x.grid(1, 1), 0);
+        UnreadScript y = new UnreadScript();
+        y.form(0);
+        y.form(1);
+        y.form(63);
+        y.apart(0, 1, 5);
+        y.apart(2, 1, 3);
+        check.due("nor is it from itself", y.grid(1, 0), 3);
+        check.due("nor is it from itself", y.grid(2, 0), 0);
+        check.due("the other form's is the sign's", y.grid(2, 10), 0);
         x.likeness(0);
         check.due("told", x.apart(2, 1, 4), 4);
     }

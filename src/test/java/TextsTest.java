@@ -233,6 +233,7 @@ public final class TextsTest {
         check.due("chance(23, 21, 1)", x.chance(23, 21, 1), 97 * 96 / 8);
         check.due("signs(0)", x.signs(0), 24);
         check.due("akin(21, 23)", x.akin(21, 23), 0);
+        check.due("grid(2, 1)", x.grid(2, 1), 0);
         x.word(1, 1);
         check.due("tabled(2)", x.tabled(2), 23);
         check.due("read", x.read(255, 1), 48);
