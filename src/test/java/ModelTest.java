@@ -1,4 +1,10 @@
+import java.lang.reflect.InvocationTargetException;
+import java.lang.reflect.Method;
+import java.lang.reflect.Modifier;
+import java.util.Arrays;
+import java.util.HashMap;
 import java.util.List;
+import java.util.Map;
 import java.util.Random;
 
 /** All promises: runs of calls, drawn from fixed seeds, answered by the class and by the Model alike. */
@@ -6,6 +12,9 @@ public final class ModelTest {
     private static final int RUNS = 240;
     private static final int CALLS = 512;
     private static final List<String> KINDS = List.of("sign", "sound", "word", "name", "tongue");
+
+    private static final Map<String, Method> SCRIPT = methodsOf(UnreadScript.class);
+    private static final Map<String, Method> MODEL = methodsOf(Model.class);
 
     private final int run;
     private final Random random;
@@ -253,105 +262,35 @@ public final class ModelTest {
     private void call(String name, long... with) {
         if (wrong || calls >= CALLS) return;
         calls++;
-        long got = answer(name, with);
-        long want = answerDue(name, with);
-        told.append("\n  ").append(name).append(java.util.Arrays.toString(with)).append(" ").append(got);
-        if (got == want) return;
+        told.append("\n  ").append(name).append(Arrays.toString(with)).append(" ");
+        String want = answer(model, MODEL.get(name), with);
+        String got = answer(script, SCRIPT.get(name), with);
+        told.append(got);
+        if (got.equals(want)) return;
         wrong = true;
         told.append(", due is ").append(want);
     }
 
-    private long answer(String name, long... w) {
-        int[] a = ints(w);
-        UnreadScript x = script;
-        switch (name) {
-            case "form": return x.form(a[0]);
-            case "likeness": return x.likeness(a[0]);
-            case "sign": return x.sign(a[0]);
-            case "signs": return x.signs(a[0]);
-            case "text": return x.text(a[0], a[1], a[2], a[3]);
-            case "drop": return x.drop();
-            case "textOf": return x.textOf(a[0], a[1]);
-            case "counted": return x.counted(a[0]);
-            case "beside": return x.beside(a[0], a[1]);
-            case "chance": return x.chance(a[0], a[1], a[2]);
-            case "runs": return x.runs(a[0]);
-            case "akin": return x.akin(a[0], a[1]);
-            case "apart": return x.apart(a[0], a[1], a[2]);
-            case "grid": return x.grid(a[0], a[1]);
-            case "account": return x.account(a[0], a[1]);
-            case "values": return x.values(a[0]);
-            case "sure": return x.sure(a[0]);
-            case "name": return x.name(a[0], a[1]);
-            case "dragged": return x.dragged(a[0], a[1], a[2]);
-            case "together": return x.together(a[0], a[1], a[2], a[3]);
-            case "word": return x.word(a[0], a[1]);
-            case "tabled": return x.tabled(a[0]);
-            case "read": return x.read(a[0], a[1]);
-            case "best": return x.best(a[0], a[1]);
-            case "judge": return x.judge(a[0], a[1], a[2]);
-            case "feed": return x.feed(w[0]);
-            case "end": return x.end(a[0]);
-            case "claims": return x.claims();
-            case "fault": return x.fault();
-            case "claim": return x.claim(a[0], a[1]);
-            case "withdraw": return x.withdraw(a[0]);
-            case "day": return x.day(a[0]);
-            case "known": return x.known(a[0], a[1]);
-            case "sheet": return x.sheet(a[0], a[1], a[2]);
-            case "lay": return x.lay(a[0], a[1], a[2]);
-            case "count": return x.count(a[0]);
-            default: throw new IllegalArgumentException(name);
+    private static String answer(Object on, Method method, long... with) {
+        Object[] args = new Object[with.length];
+        for (int i = 0; i < args.length; i++) {
+            boolean isLong = method.getParameterTypes()[i] == long.class;
+            args[i] = isLong ? (Object) with[i] : (Object) (int) with[i];
+        }
+        try {
+            return String.valueOf(((Number) method.invoke(on, args)).longValue());
+        } catch (InvocationTargetException thrown) {
+            return "by throwing " + thrown.getCause();
+        } catch (IllegalAccessException e) {
+            throw new IllegalStateException(e);
         }
     }
 
-    private long answerDue(String name, long... w) {
-        int[] a = ints(w);
-        Model x = model;
-        switch (name) {
-            case "form": return x.form(a[0]);
-            case "likeness": return x.likeness(a[0]);
-            case "sign": return x.sign(a[0]);
-            case "signs": return x.signs(a[0]);
-            case "text": return x.text(a[0], a[1], a[2], a[3]);
-            case "drop": return x.drop();
-            case "textOf": return x.textOf(a[0], a[1]);
-            case "counted": return x.counted(a[0]);
-            case "beside": return x.beside(a[0], a[1]);
-            case "chance": return x.chance(a[0], a[1], a[2]);
-            case "runs": return x.runs(a[0]);
-            case "akin": return x.akin(a[0], a[1]);
-            case "apart": return x.apart(a[0], a[1], a[2]);
-            case "grid": return x.grid(a[0], a[1]);
-            case "account": return x.account(a[0], a[1]);
-            case "values": return x.values(a[0]);
-            case "sure": return x.sure(a[0]);
-            case "name": return x.name(a[0], a[1]);
-            case "dragged": return x.dragged(a[0], a[1], a[2]);
-            case "together": return x.together(a[0], a[1], a[2], a[3]);
-            case "word": return x.word(a[0], a[1]);
-            case "tabled": return x.tabled(a[0]);
-            case "read": return x.read(a[0], a[1]);
-            case "best": return x.best(a[0], a[1]);
-            case "judge": return x.judge(a[0], a[1], a[2]);
-            case "feed": return x.feed(w[0]);
-            case "end": return x.end(a[0]);
-            case "claims": return x.claims();
-            case "fault": return x.fault();
-            case "claim": return x.claim(a[0], a[1]);
-            case "withdraw": return x.withdraw(a[0]);
-            case "day": return x.day(a[0]);
-            case "known": return x.known(a[0], a[1]);
-            case "sheet": return x.sheet(a[0], a[1], a[2]);
-            case "lay": return x.lay(a[0], a[1], a[2]);
-            case "count": return x.count(a[0]);
-            default: throw new IllegalArgumentException(name);
+    private static Map<String, Method> methodsOf(Class<?> type) {
+        Map<String, Method> found = new HashMap<>();
+        for (Method method : type.getDeclaredMethods()) {
+            if (!Modifier.isPrivate(method.getModifiers())) found.put(method.getName(), method);
         }
-    }
-
-    private static int[] ints(long[] with) {
-        int[] a = new int[with.length];
-        for (int i = 0; i < a.length; i++) a[i] = (int) with[i];
-        return a;
+        return found;
     }
 }
