@@ -23,6 +23,7 @@ final class Model {
 
     private final List<Integer> forms = new ArrayList<>();
     private int likeness = 1;
+    private final Map<Integer, Integer> signsNow = new HashMap<>();
     private final List<List<Integer>> texts = new ArrayList<>();
     private final Map<Set<Integer>, Integer> told = new HashMap<>();
     private final List<int[][]> accounts = new ArrayList<>();
@@ -41,6 +42,7 @@ final class Model {
         if (features < 0 || features > 4095) return BAD;
         if (forms.size() == 24) return FULL;
         forms.add(features);
+        signsNow.clear();
         return forms.size() - 1;
     }
 
@@ -48,6 +50,7 @@ final class Model {
         if (v < 0 || v > 12) return BAD;
         int was = likeness;
         likeness = v;
+        signsNow.clear();
         return was;
     }
 
@@ -65,7 +68,7 @@ final class Model {
     }
 
     private int signOf(int form) {
-        return ((TreeSet<Integer>) group(form, likeness)).first();
+        return signsNow.computeIfAbsent(form, f -> ((TreeSet<Integer>) group(f, likeness)).first());
     }
 
     private boolean noForm(int f) {
