@@ -459,6 +459,12 @@ public final class ClaimBoundsTest {
         UnreadScript x = withClaims(2);
         refused(x, "word 1 on 0, 7;", 13, NO_CLAIM);
         told(x, "word 1 on 0, 1;", 1);
+        refused(x, "word 2 on 2; word 3 on 3; word 4 on 4; ;", 39, MISPLACED);
+        told(x, "word 2; word 3; word 4;", 3);
+        for (int k = 3; k < 6; k++) {
+            check.due("claim(" + k + ", 4)", x.claim(k, 4), 0);
+            check.due("claim(" + k + ", 6)", x.claim(k, 6), 0);
+        }
     }
 
     private static String allUpTo(int k) {
@@ -612,6 +618,8 @@ public final class ClaimBoundsTest {
         told(x, "sign 3;", 1);
         check.due("day 0", x.claim(0, 2), 0);
         check.due("day 99", x.claim(2, 2), 99);
+        told(x, "sign 4; sign 5; sign 6;", 3);
+        for (int k = 3; k < 6; k++) check.due("day 99, claim(" + k + ", 2)", x.claim(k, 2), 99);
         check.due("not withdrawn", x.claim(0, 3), NONE);
         x.withdraw(0);
         check.due("withdrawn", x.claim(0, 3), 99);

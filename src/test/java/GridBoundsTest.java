@@ -29,6 +29,7 @@ public final class GridBoundsTest {
         gridBoundByOneBeyond();
         quarrelOfOneRow();
         quarrelOfAkin();
+        quarrelOfEachPairByItself();
         quarrelAtTheMost();
         leastRowsOfSeveral();
         leastQuarrelAheadOfLeastRows();
@@ -289,6 +290,13 @@ public final class GridBoundsTest {
         check.due("SIGN 1", x.grid(2, 11), 7);
         x.drop();
         check.due("none left", x.grid(2, 1), 0);
+        Scripts.text(x, "ab cd ad cb. c d");
+        check.due("b, d", x.grid(2, 1), 2);
+        check.due("SIGN 0", x.grid(2, 10), 1);
+        check.due("SIGN 1", x.grid(2, 11), 3);
+        x.drop();
+        Scripts.text(x, "ab cd ef");
+        check.due("WORDS, but no STEMS", x.grid(2, 1), 0);
     }
 
     private static void gridOfEightSigns() {
@@ -337,6 +345,23 @@ public final class GridBoundsTest {
         x.apart(0, 1, 3);
         check.due("APART by more", x.grid(2, 0), 2);
         check.due("two rows", x.grid(2, 31), 1);
+    }
+
+    private static void quarrelOfEachPairByItself() {
+        check.promise("15: QUARREL: AKIN of each pair by itself");
+        UnreadScript x = Scripts.withForms(6);
+        Scripts.text(x, "da db ea eb fa fc");
+        // a and b by 2, a and c by 1, b and c by none.
+        for (int f = 0; f < 3; f++) x.apart(f, (f + 1) % 3, 9);
+        check.due("three rows", x.grid(3, 0), 3);
+        x.apart(0, 1, 0);
+        check.due("c by itself", x.grid(2, 0), 1);
+        check.due("row of c", x.grid(2, 32), 1);
+        x.apart(0, 1, 9);
+        x.apart(1, 2, 0);
+        check.due("a by itself", x.grid(2, 0), 3);
+        check.due("row of b", x.grid(2, 31), 1);
+        check.due("row of c", x.grid(2, 32), 1);
     }
 
     private static void quarrelAtTheMost() {

@@ -23,6 +23,8 @@ public final class SoundBoundsTest {
         togetherAtOnePlace();
         togetherAlikeAndUnlike();
         togetherNone();
+        togetherEachFitsByItself();
+        togetherOfLongAndShort();
         togetherAtTheMost();
         wordOfOneToSixSounds();
         wordOfNumbersThatFit();
@@ -285,6 +287,41 @@ public final class SoundBoundsTest {
         check.due("the first NAME FITS nowhere", x.together(1, 0, 0, 0), 0);
         check.due("the second NAME FITS nowhere", x.together(0, 0, 1, 0), 0);
         check.due("no SIGNS", x.together(0, 0, 0, 1), 0);
+    }
+
+    private static void togetherEachFitsByItself() {
+        check.promise("21: Places at which two NAMES FIT");
+        UnreadScript x = Scripts.withForms(4);
+        x.name(1, Scripts.sounds("0"));
+        x.name(2, Scripts.sounds("11"));
+        x.name(2, Scripts.sounds("10"));
+        Scripts.text(x, "a");
+        Scripts.text(x, "bc");
+        Scripts.text(x, "bb");
+        Scripts.text(x, "ba");
+        int[][] want = {{0, 0, 1, 0}, {0, 0, 0, 1}};
+        for (int u = 0; u < 4; u++) {
+            for (int b = 1; b <= 2; b++) {
+                check.due("NAME 0, NAME " + b + " in TEXT " + u, x.together(0, 0, b, u), want[b - 1][u]);
+                check.due("the other way", x.together(b, u, 0, 0), want[b - 1][u]);
+            }
+        }
+    }
+
+    private static void togetherOfLongAndShort() {
+        check.promise("21: two TEXTS, a long one and a short one");
+        UnreadScript x = Scripts.withForms(3);
+        x.name(1, Scripts.sounds("0"));
+        x.name(3, Scripts.sounds("012"));
+        Scripts.text(x, "b");
+        Scripts.text(x, "aaaaaaaaaaaaaaaaaaaaabac");
+        check.due("short, long", x.together(0, 0, 0, 1), 1);
+        check.due("long, short", x.together(0, 1, 0, 0), 1);
+        check.due("at the last places", x.together(0, 0, 1, 1), 1);
+        check.due("at the last places", x.together(1, 1, 0, 0), 1);
+        x.drop();
+        Scripts.text(x, "aaaaaaaaaaaaaaaaaaaacabc");
+        check.due("no SIGN that is alike at its beginning", x.together(0, 0, 1, 1), 0);
     }
 
     private static void togetherAtTheMost() {
